@@ -393,12 +393,20 @@ public final class NestedStore {
                 latestValue = pages.value[k];
                 return asNumber(pages.there[k]);
             case PUT:
-                return update(t, k, true, transactions.newValue[t]) ? 0 : FULL;
+                if (!hasRoomForOne()) {
+                    return FULL;
+                }
+                update(t, k, true, transactions.newValue[t]);
+                return 0;
             case DELETE:
                 if (!pages.there[k]) {
                     return 0;
                 }
-                return update(t, k, false, 0) ? 1 : FULL;
+                if (!hasRoomForOne()) {
+                    return FULL;
+                }
+                update(t, k, false, 0);
+                return 1;
             default:
                 return countAndSum(k, transactions.high[t]);
         }
@@ -420,17 +428,12 @@ public final class NestedStore {
         return found;
     }
 
-    /** False, and nothing is changed, when there is no room. */
-    private boolean update(int t, int k, boolean isThere, int newValue) {
-        if (!hasRoomForOne()) {
-            return false;
-        }
+    private void update(int t, int k, boolean isThere, int newValue) {
         int row = log.append(UPDATE_RECORD, t, k);
         log.setBefore(row, pages.there[k], pages.value[k]);
         log.setAfter(row, isThere, newValue);
         pages.touch(k / KEYS_OF_A_PAGE, log);
         pages.change(k, isThere, newValue, log.lsnOf(row));
-        return true;
     }
 
     private void undo(int updateRow, int by) {
@@ -447,7 +450,7 @@ public final class NestedStore {
 
     private boolean isOpen(int row) {
         return log.kind[row] == UPDATE_RECORD && !log.undone[row]
-                && transactions.isLive(transactions.top[log.transaction[row]]);
+                && transactions.isTopLive(log.transaction[row]);
     }
 
     private int openUpdateCount() {
@@ -571,6 +574,12 @@ public final class NestedStore {
 
         boolean isLive(int t) {
             return exists(t) && (state[t] == ACTIVE || state[t] == WAITING);
+        }
+
+        /** For a t that exists. */
+        boolean isTopLive(int t) {
+            int itsState = state[top[t]];
+            return itsState == ACTIVE || itsState == WAITING;
         }
 
         boolean isWithin(int t, int ancestor) {

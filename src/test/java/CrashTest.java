@@ -23,6 +23,7 @@ final class CrashTest {
             put 0 0 1 = 0
             crash 0 = 0
             key 0 0 = 0
+            key 0 1 = 0
             page 0 = 0
             log 0 = 0        # the log is empty again
             log 1 = 0
@@ -319,6 +320,13 @@ final class CrashTest {
             log 4 = 0
             begin -1 = 2
             put 2 0 5 = 0    # nobody is in the way
+            commit 2 = 0
+            begin -1 = 3
+            get 3 0 = 1
+            crash 0 = 0
+            lock 3 0 = 0
+            begin -1 = 4
+            put 4 0 6 = 0
             """);
     }
 }

@@ -12,6 +12,8 @@ final class LockTest {
         circleThroughChildren();
         circlesOfSeveralRounds();
         circleOfFamily();
+        circleOfTheFirst();
+        longCircle();
         outsideOfTheCircle();
         victimIsUndone();
         DUE.end();
@@ -267,6 +269,94 @@ final class LockTest {
             commit 1 = 0
             get 2 5 = 1
             value = 11
+            """);
+    }
+
+    private static void circleOfTheFirst() {
+        Script.play(DUE, "circle of the first", """
+            begin -1 = 0
+            begin -1 = 1
+            get 0 4 = 0
+            get 1 4 = 0
+            put 1 4 1 = WAIT  # both have END
+            put 0 4 1 = WAIT
+            state 1 = 4
+            resume 0 = 0
+            new 4
+            begin -1 = 0
+            begin -1 = 1
+            get 0 4 = 0
+            get 1 4 = 0
+            put 0 4 1 = WAIT
+            put 1 4 1 = VICTIM
+            state 0 = 2
+            resume 0 = 0
+            new 4
+            begin -1 = 0
+            begin -1 = 1
+            put 1 1 1 = 0
+            put 1 2 2 = 0
+            put 1 3 3 = 0
+            commit 1 = 0
+            begin -1 = 2
+            begin -1 = 3
+            put 0 1 0 = 0
+            put 2 2 0 = 0
+            put 3 3 0 = 0
+            get 3 1 = WAIT
+            get 0 2 = WAIT
+            get 2 3 = WAIT    # 2, 3, 0, 2
+            state 3 = 4
+            state 2 = 2
+            state 0 = 2
+            """);
+    }
+
+    /** The numbers fall along the circle, then rise, and the last to ask closes it. */
+    private static void longCircle() {
+        String six = """
+            new 8
+            begin -1 = 0
+            put 0 1 1 = 0
+            put 0 2 2 = 0
+            put 0 3 3 = 0
+            put 0 4 4 = 0
+            put 0 5 5 = 0
+            commit 0 = 0
+            begin -1 = 1
+            begin -1 = 2
+            begin -1 = 3
+            begin -1 = 4
+            begin -1 = 5
+            put 1 1 0 = 0
+            put 2 2 0 = 0
+            put 3 3 0 = 0
+            put 4 4 0 = 0
+            put 5 5 0 = 0
+            """;
+        Script.play(DUE, "long circle, falling", six + """
+            get 5 4 = WAIT
+            get 4 3 = WAIT
+            get 3 2 = WAIT
+            get 2 1 = WAIT
+            get 1 5 = WAIT
+            state 5 = 4
+            state 4 = 2
+            state 3 = 2
+            state 2 = 2
+            resume 1 = 1
+            """);
+        Script.play(DUE, "long circle, rising", six + """
+            get 1 2 = WAIT
+            get 2 3 = WAIT
+            get 4 5 = WAIT
+            get 5 1 = WAIT
+            get 3 4 = WAIT
+            state 5 = 4
+            state 1 = 2
+            state 2 = 2
+            state 4 = 2
+            resume 4 = 1
             """);
     }
 

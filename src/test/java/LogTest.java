@@ -6,6 +6,7 @@ final class LogTest {
         archive();
         archiveRefused();
         afterArchive();
+        recordsDoNotMix();
         entry();
         entryRefused();
         log();
@@ -106,6 +107,39 @@ final class LogTest {
             frame 0 = NONE
             key 0 1 = 1
             page 0 = 6
+            """);
+    }
+
+    private static void recordsDoNotMix() {
+        Script.play(DUE, "20 records after archive", """
+            new 4
+            begin -1 = 0
+            put 0 0 1 = 0
+            put 0 0 2 = 0
+            put 0 0 3 = 0
+            rollback 0 2 = 2 # LSN 5, 6
+            commit 0 = 0     # LSN 7
+            archive = 1
+            begin -1 = 1     # LSN 8
+            begin 1 = 2      # LSN 9, where an update was
+            begin 1 = 3      # LSN 10
+            put 2 9 5 = 0    # LSN 11, where an undone update was
+            log 3 = 1
+            commit 2 = 0     # LSN 12, where an UNDO was
+            abort 3 = 0      # LSN 13
+            entry 9 3 = 0
+            entry 9 4 = 0
+            entry 9 5 = 0
+            entry 10 3 = 0
+            entry 10 4 = 0
+            entry 11 3 = 0
+            entry 11 4 = 1
+            entry 12 2 = 0
+            entry 12 3 = 0
+            entry 12 4 = 0
+            entry 12 5 = 0
+            entry 13 3 = 0
+            entry 13 5 = 0
             """);
     }
 

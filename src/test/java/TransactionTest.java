@@ -10,6 +10,7 @@ final class TransactionTest {
         atMostSixty();
         commitOfTop();
         commitOfChild();
+        commitPassesAllItems();
         abortUndoes();
         abortWithinAndRefused();
         stateAndParent();
@@ -189,6 +190,20 @@ final class TransactionTest {
             commit 1 = NONE  # waiting
             state 1 = 2
             """);
+    }
+
+    private static void commitPassesAllItems() {
+        NestedStore store = new NestedStore(8);
+        store.begin(-1);
+        store.begin(0);
+        for (int k = 0; k < 32; k++) {
+            DUE.is("9 put " + k, store.put(1, k, k), 0);
+        }
+        DUE.is("9 commit", store.commit(1), 0);
+        for (int item = 0; item <= 32; item++) {
+            DUE.is("9 lock of the parent on " + item, store.lock(0, item), 2);
+            DUE.is("9 lock of the child on " + item, store.lock(1, item), 0);
+        }
     }
 
     private static void abortUndoes() {
