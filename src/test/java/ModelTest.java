@@ -1,26 +1,33 @@
+import java.util.ArrayList;
+import java.util.List;
+import java.util.Map;
 import java.util.Random;
 
 /**
- * Long mixed runs, always the same ones, held call by call against PlainModel: the answer of each
- * call, and after it everything that can be asked.
+ * Long mixed runs, always the same ones, held against PlainModel: the answer of each of the 512
+ * calls that an object has, and at some points of each run everything that can be asked.
  */
 final class ModelTest {
-    private static final int RUNS = 400;
-    private static final int CALLS = 512;
-    private static final int[] SEEN = new int[16];
+    private static final int RUNS = 500;
+    /** Behind this call an object has too few left for questions. */
+    private static final int LAST_LOOK = 440;
+    private static final int LOOKS = 20;
+    /** How often answers came that the runs must come upon. */
+    private static final Map<String, Integer> SEEN = new java.util.TreeMap<>();
 
     private final Random random;
-    private final NestedStore store;
-    private final PlainModel model;
+    private final int frames;
     private final int keys;
     private final int style;
+    private final NestedStore store;
+    private final PlainModel model;
+    private final List<Call> run = new ArrayList<>();
     private final Due due;
-    private String call = "new";
 
     private ModelTest(int seed, Due due) {
         random = new Random(seed);
         style = seed % 5;
-        int frames = random.nextInt(11) - 1;
+        frames = random.nextInt(11) - 1;
         keys = 2 + random.nextInt(31);
         store = new NestedStore(frames);
         model = new PlainModel(frames);
@@ -30,45 +37,61 @@ final class ModelTest {
     public static void main(String[] args) {
         Due due = new Due("ModelTest");
         for (int seed = 0; seed < RUNS && !due.anyWrong(); seed++) {
-            new ModelTest(seed, due).run(seed);
+            new ModelTest(seed, due).play("run " + seed);
         }
-        for (String what : new String[] {"WAIT", "VICTIM", "BUSY", "FULL", "deep undo", "crash undo"}) {
-            due.yes("the runs came upon " + what, SEEN[placeOf(what)] > 0);
+        for (String what : new String[] {"-2", "-3", "-4", "-5", "long abort", "long crash"}) {
+            due.yes("the runs came upon " + what, SEEN.getOrDefault(what, 0) > 0);
         }
         due.end();
     }
 
-    private static int placeOf(String what) {
-        return switch (what) {
-            case "WAIT" -> 2;
-            case "VICTIM" -> 3;
-            case "BUSY" -> 4;
-            case "FULL" -> 5;
-            case "deep undo" -> 6;
-            default -> 7;
-        };
-    }
-
-    private void run(int seed) {
-        for (int i = 0; i < CALLS && !due.anyWrong(); i++) {
-            int kind = random.nextInt(100);
-            step(kind);
-            compareAll("run " + seed + ", call " + i + ", after " + call);
+    private void play(String name) {
+        for (int i = 0; i < Everything.MOST_CALLS && !due.anyWrong(); i++) {
+            boolean asks = random.nextInt(isFilling() ? 40 : 4) == 0;
+            Call call = asks ? someQuestion() : someAction(random.nextInt(100));
+            run.add(call);
+            int answer = call.on(model);
+            note(call, answer);
+            due.is(name + ", call " + i + ": " + call, call.on(store), answer);
+            if (i < LAST_LOOK && random.nextInt(LAST_LOOK) < LOOKS) {
+                lookAround(name + ", after call " + i + ", " + call);
+            }
         }
     }
 
-    /** Mostly numbers that exist, now and then one that does not. */
-    private int someTransaction() {
+    private void note(Call call, int answer) {
+        if (!call.onlyAsks() && answer <= -2) {
+            SEEN.merge(Integer.toString(answer), 1, Integer::sum);
+        }
+        if ((call.name().equals("abort") || call.name().equals("crash")) && answer > 2) {
+            SEEN.merge("long " + call.name(), 1, Integer::sum);
+        }
+    }
+
+    private void lookAround(String when) {
+        Map<Call, Integer> want = Everything.of(model);
+        Map<Call, Integer> got = Everything.after(frames, run);
+        Call different = Everything.firstDifference(want, got);
+        due.yes(when + ", not as due: " + different, different == null);
+    }
+
+    private int countOfTransactions() {
         int count = 0;
-        while (store.state(count) != NestedStore.NONE) {
+        while (model.state(count) != PlainModel.NONE) {
             count++;
         }
+        return count;
+    }
+
+    /** Mostly numbers that exist and are live, now and then one that does not. */
+    private int someTransaction() {
+        int count = countOfTransactions();
         if (random.nextInt(20) == 0) {
             return random.nextInt(64) - 2;
         }
         for (int i = 0; i < 12; i++) {
             int t = count == 0 ? 0 : random.nextInt(count);
-            if (store.state(t) <= 2) {
+            if (model.state(t) <= 2) {
                 return t;
             }
         }
@@ -83,118 +106,67 @@ final class ModelTest {
         return random.nextInt(8) == 0 ? random.nextInt() : random.nextInt(9) - 4;
     }
 
-    private void answer(String what, int got, int want) {
-        call = what;
-        due.is(what, got, want);
-        if (got <= -2 && got >= -5) {
-            SEEN[-got]++;
-        }
-    }
-
     /** A style with few transactions and many updates, so that the room is used up. */
     private boolean isFilling() {
         return style == 2;
     }
 
     private boolean mayBegin() {
-        return !isFilling() || store.log(4) == 0 || random.nextInt(12) == 0;
+        return !isFilling() || model.log(4) == 0 || random.nextInt(12) == 0;
     }
 
-    private void step(int kind) {
+    private Call someQuestion() {
+        int t = someTransaction();
+        return switch (random.nextInt(10)) {
+            case 0 -> Call.of("value");
+            case 1 -> Call.of("state", t);
+            case 2 -> Call.of("parent", t);
+            case 3 -> Call.of("lock", t, random.nextInt(35) - 1);
+            case 4 -> Call.of("waits", t, someTransaction());
+            case 5 -> Call.of("entry", model.log(0) - random.nextInt(30) + 1, random.nextInt(8) - 1);
+            case 6 -> Call.of("log", random.nextInt(7) - 1);
+            case 7 -> Call.of("key", random.nextInt(34) - 1, random.nextInt(6) - 1);
+            case 8 -> Call.of("frame", random.nextInt(10) - 1);
+            default -> Call.of("page", random.nextInt(10) - 1);
+        };
+    }
+
+    private Call someAction(int kind) {
         int t = someTransaction();
         int k = someKey();
         if (kind < (style == 1 ? 8 : 14) && mayBegin()) {
-            int parent = random.nextInt(3) == 0 ? -1 : t;
-            answer("begin " + parent, store.begin(parent), model.begin(parent));
+            return Call.of("begin", random.nextInt(3) == 0 ? -1 : t);
         } else if (kind < 22) {
-            answer("get " + t + " " + k, store.get(t, k), model.get(t, k));
+            return Call.of("get", t, k);
         } else if (kind < (isFilling() ? 70 : 48)) {
-            int v = someValue();
-            answer("put " + t + " " + k, store.put(t, k, v), model.put(t, k, v));
+            return Call.of("put", t, k, someValue());
         } else if (kind < 58) {
-            answer("delete " + t + " " + k, store.delete(t, k), model.delete(t, k));
+            return Call.of("delete", t, k);
         } else if (kind < 65) {
-            int high = k + random.nextInt(8) - 1;
-            answer("scan " + t + " " + k + " " + high, store.scan(t, k, high), model.scan(t, k, high));
+            return Call.of("scan", t, k, k + random.nextInt(8) - 1);
         } else if (kind < 78) {
-            answer("resume " + t, store.resume(t), model.resume(t));
-        } else {
-            stepOfOther(kind, t);
+            return Call.of("resume", t);
         }
+        return someOtherAction(kind, t);
     }
 
-    private void stepOfOther(int kind, int t) {
+    private Call someOtherAction(int kind, int t) {
         if (kind < (isFilling() ? 79 : 86)) {
-            answer("commit " + t, store.commit(t), model.commit(t));
+            return Call.of("commit", t);
         } else if (kind < (isFilling() ? 80 : style == 3 ? 91 : 88)) {
-            int got = store.abort(t);
-            SEEN[6] += got > 2 ? 1 : 0;
-            answer("abort " + t, got, model.abort(t));
+            return Call.of("abort", t);
+        } else if (kind < 89) {
+            return Call.of("save", t);
         } else if (kind < 93) {
-            answer("save " + t, store.save(t), model.save(t));
-            int point = store.log(0) - random.nextInt(12) + 1;
-            answer("rollback " + t + " " + point, store.rollback(t, point), model.rollback(t, point));
+            return Call.of("rollback", t, model.log(0) - random.nextInt(12) + 1);
         } else if (kind < 96) {
-            int p = random.nextInt(10) - 1;
-            answer("write " + p, store.write(p) ? 1 : 0, model.write(p) ? 1 : 0);
+            return Call.of("write", random.nextInt(10) - 1);
         } else if (kind < 98 || isFilling() && random.nextInt(8) > 0) {
-            answer("archive", store.archive(), model.archive());
+            return Call.of("archive");
         } else if (random.nextInt(3) > 0 || style == 4) {
-            int behind = store.log(0) - store.log(1);
-            int n = random.nextInt(behind + 3) - 1;
-            int got = store.crash(n);
-            SEEN[7] += got > 1 ? 1 : 0;
-            answer("crash " + n, got, model.crash(n));
+            int behind = model.log(0) - model.log(1);
+            return Call.of("crash", random.nextInt(behind + 3) - 1);
         }
-    }
-
-    private void compareAll(String when) {
-        same(when, "value", store.value(), model.value());
-        for (int what = -1; what <= 5; what++) {
-            same(when, "log " + what, store.log(what), model.log(what));
-        }
-        for (int k = -1; k <= 32; k++) {
-            for (int what = -1; what <= 4; what++) {
-                same(when, "key " + k + " " + what, store.key(k, what), model.key(k, what));
-            }
-        }
-        for (int p = -1; p <= 8; p++) {
-            same(when, "frame " + p, store.frame(p), model.frame(p));
-            same(when, "page " + p, store.page(p), model.page(p));
-        }
-        compareTransactions(when);
-        compareRecords(when);
-    }
-
-    private void compareTransactions(String when) {
-        int count = 0;
-        while (model.state(count) != PlainModel.NONE) {
-            count++;
-        }
-        for (int t = -1; t <= count; t++) {
-            same(when, "state " + t, store.state(t), model.state(t));
-            same(when, "parent " + t, store.parent(t), model.parent(t));
-            for (int item = -1; item <= 33; item++) {
-                same(when, "lock " + t + " " + item, store.lock(t, item), model.lock(t, item));
-            }
-            for (int u = -1; u <= count && model.state(t) == 2; u++) {
-                same(when, "waits " + t + " " + u, store.waits(t, u) ? 1 : 0, model.waits(t, u) ? 1 : 0);
-            }
-        }
-    }
-
-    private void compareRecords(String when) {
-        int last = model.log(0);
-        for (int lsn = Math.max(-1, last - 24); lsn <= last + 1; lsn++) {
-            for (int what = -1; what <= 6; what++) {
-                same(when, "entry " + lsn + " " + what, store.entry(lsn, what), model.entry(lsn, what));
-            }
-        }
-    }
-
-    private void same(String when, String what, int got, int want) {
-        if (got != want) {
-            due.is(when + ": " + what, got, want);
-        }
+        return Call.of("save", t);
     }
 }

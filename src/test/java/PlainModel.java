@@ -257,21 +257,21 @@ final class PlainModel {
     }
 
     int entry(int lsn, int what) {
-        for (Rec r : records) {
-            if (r.lsn == lsn) {
-                boolean ofKey = r.kind == Kind.UPDATE || r.kind == Kind.UNDO;
-                return switch (what) {
-                    case 0 -> r.kind.ordinal() + 1;
-                    case 1 -> r.by.number;
-                    case 2 -> r.kind == Kind.BEGIN ? parent(r.by.number) : ofKey ? r.key : 0;
-                    case 3 -> r.kind == Kind.UNDO ? r.of : ofKey && r.before != null ? 1 : 0;
-                    case 4 -> ofKey && r.after != null ? 1 : 0;
-                    case 5 -> ofKey && r.after != null ? r.after : 0;
-                    default -> NONE;
-                };
-            }
+        int place = records.isEmpty() ? -1 : lsn - records.get(0).lsn;
+        if (lsn < 1 || place < 0 || place >= records.size()) {
+            return NONE;
         }
-        return NONE;
+        Rec r = records.get(place);
+        boolean ofKey = r.kind == Kind.UPDATE || r.kind == Kind.UNDO;
+        return switch (what) {
+            case 0 -> r.kind.ordinal() + 1;
+            case 1 -> r.by.number;
+            case 2 -> r.kind == Kind.BEGIN ? parent(r.by.number) : ofKey ? r.key : 0;
+            case 3 -> r.kind == Kind.UNDO ? r.of : ofKey && r.before != null ? 1 : 0;
+            case 4 -> ofKey && r.after != null ? 1 : 0;
+            case 5 -> ofKey && r.after != null ? r.after : 0;
+            default -> NONE;
+        };
     }
 
     int log(int what) {

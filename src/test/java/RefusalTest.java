@@ -1,171 +1,197 @@
-import java.util.function.IntSupplier;
+import java.util.ArrayList;
+import java.util.LinkedHashSet;
+import java.util.List;
+import java.util.Map;
+import java.util.Random;
+import java.util.Set;
 
-/** What is refused changes nothing, and no call throws, whatever its arguments are. */
+/**
+ * "What is refused (NONE, BUSY, false) changes nothing": in several states all calls with arguments
+ * at, below and above each limit are made, each on an object of its own; PlainModel tells which are
+ * refused. And no call throws, whatever its arguments are.
+ */
 final class RefusalTest {
     private static final Due DUE = new Due("RefusalTest");
-    private static final int[] ODD = {
-        Integer.MIN_VALUE, Integer.MIN_VALUE + 1, -65, -64, -33, -5, -2, -1, 0, 1, 2, 3, 4, 5, 7, 8,
-        31, 32, 33, 59, 60, 61, 63, 64, 65, 300, 301, Integer.MAX_VALUE - 1, Integer.MAX_VALUE
+    private static final int LOWEST = Integer.MIN_VALUE;
+    private static final int HIGHEST = Integer.MAX_VALUE;
+    private static final int[] KEYS = {LOWEST, -1, 0, 4, 31, 32, HIGHEST};
+    private static final int[] PAGES = {LOWEST, -1, 0, 1, 2, 7, 8, HIGHEST};
+
+    private static final String MIXED = """
+        begin -1
+        put 0 4 40
+        begin 0
+        begin -1
+        get 2 4
+        begin -1
+        commit 3
+        begin -1
+        abort 4
+        put 1 8 80
+        begin 1
+        get 1 4
+        """;
+    /** New, mixed, after a crash, after archive, full at 300, full at 299, all 60 and depth 4. */
+    private static final String[] STATES = {
+        "",
+        MIXED,
+        MIXED + "crash 7\n",
+        MIXED + "abort 0\nabort 2\narchive\n",
+        "begin -1\n" + "put 0 4 1\n".repeat(149),
+        "begin -1\nput 0 0 0\ncommit 0\nbegin -1\nbegin 1\nbegin -1\nget 2 0\nput 3 0 1\n"
+            + "put 2 8 1\n".repeat(145),
+        "begin -1\nbegin 0\nbegin 1\nbegin 2\n" + "begin -1\n".repeat(56)
     };
 
-    private final NestedStore store;
-
-    private RefusalTest(NestedStore store) {
-        this.store = store;
-    }
-
     public static void main(String[] args) {
-        new RefusalTest(new NestedStore(3)).refuseAll();
-        new RefusalTest(mixed()).refuseAll();
-        new RefusalTest(crashed()).refuseAll();
-        for (int seed = 0; seed < 8; seed++) {
-            new RefusalTest(mixed()).callWildly(seed);
+        for (int i = 0; i < STATES.length; i++) {
+            new RefusalTest("state " + i, i % 3 + 1, STATES[i]).tryAll();
+        }
+        for (int seed = 0; seed < 60; seed++) {
+            callWildly(seed);
         }
         DUE.end();
     }
 
-    /** 0 is active, has a live child 1 that is active; 2 waits; 3 is committed, 4 aborted. */
-    private static NestedStore mixed() {
-        NestedStore store = new NestedStore(2);
-        store.begin(-1);
-        store.put(0, 4, 40);
-        store.begin(0);
-        store.begin(-1);
-        store.get(2, 4);
-        store.begin(-1);
-        store.commit(3);
-        store.begin(-1);
-        store.abort(4);
-        store.put(1, 8, 80);
-        return store;
-    }
+    private final String name;
+    private final int frames;
+    private final List<Call> run = new ArrayList<>();
+    private final Map<Call, Integer> before;
+    private PlainModel model;
+    private int refused;
 
-    private static NestedStore crashed() {
-        NestedStore store = mixed();
-        store.crash(store.log(0) - store.log(1));
-        return store;
-    }
-
-    private String seen() {
-        StringBuilder all = new StringBuilder();
-        all.append(store.value());
-        for (int i = 0; i <= 4; i++) {
-            all.append(' ').append(store.log(i));
-        }
-        for (int k = 0; k < 32; k++) {
-            for (int what = 0; what < 4; what++) {
-                all.append(' ').append(store.key(k, what));
+    private RefusalTest(String name, int frames, String text) {
+        this.name = name;
+        this.frames = frames;
+        for (String line : text.split("\n")) {
+            if (!line.isBlank()) {
+                run.add(Call.of(line));
             }
         }
-        for (int p = 0; p < 8; p++) {
-            all.append(' ').append(store.frame(p)).append(' ').append(store.page(p));
+        before = Everything.after(frames, run);
+        model = playedModel();
+        Call different = Everything.firstDifference(Everything.of(model), before);
+        DUE.yes(name + " at first, not as due: " + different, different == null);
+    }
+
+    private PlainModel playedModel() {
+        PlainModel played = new PlainModel(frames);
+        run.forEach(call -> call.on(played));
+        return played;
+    }
+
+    private void tryAll() {
+        for (Call call : candidates()) {
+            tryOne(call);
         }
-        for (int t = 0; t < 60; t++) {
-            all.append(' ').append(store.state(t));
-            for (int item = 0; item <= 32; item++) {
-                all.append(store.lock(t, item));
-            }
-            for (int u = 0; u < 60; u++) {
-                all.append(store.waits(t, u) ? 'w' : '.');
-            }
+        DUE.yes(name + ": some calls are refused", refused > 100);
+    }
+
+    private void tryOne(Call call) {
+        int want = call.on(model);
+        List<Call> longer = new ArrayList<>(run);
+        longer.add(call);
+        NestedStore store = new NestedStore(frames);
+        int got = 0;
+        for (Call each : longer) {
+            got = each.on(store);
         }
-        return all.toString();
-    }
-
-    private void refused(String call, IntSupplier asked) {
-        String before = seen();
-        int answer = asked.getAsInt();
-        boolean refusal = answer == NestedStore.NONE || answer == NestedStore.BUSY;
-        DUE.yes(call + " is refused", refusal);
-        DUE.yes(call + " changes nothing", seen().equals(before));
-    }
-
-    private void refuseAll() {
-        for (int t : ODD) {
-            if (t != -1 && store.state(t) != 1) {
-                refused("begin " + t, () -> store.begin(t));
-            }
-            if (store.state(t) != 1 || t == 0) {
-                refuseActing(t);
-            }
-            if (store.state(t) != 2) {
-                refused("resume " + t, () -> store.resume(t));
-            }
-            if (store.state(t) != 1 && store.state(t) != 2) {
-                refused("abort " + t, () -> store.abort(t));
-            }
-            if (t < 0 || t > store.log(0) - store.log(1)) {
-                refused("crash " + t, () -> store.crash(t));
-            }
-            if (t < 0 || t > 7) {
-                refused("write " + t, () -> store.write(t) ? 1 : -1);
-            }
-        }
-        refuseWrongKeys();
-    }
-
-    private void refuseActing(int t) {
-        refused("get " + t, () -> store.get(t, 4));
-        refused("put " + t, () -> store.put(t, 4, 1));
-        refused("delete " + t, () -> store.delete(t, 4));
-        refused("scan " + t, () -> store.scan(t, 0, 31));
-        refused("commit " + t, () -> store.commit(t));
-        refused("save " + t, () -> store.save(t));
-        refused("rollback " + t, () -> store.rollback(t, store.log(0)));
-    }
-
-    private void refuseWrongKeys() {
-        for (int k : ODD) {
-            if (k < 0 || k > 31) {
-                refused("get 1 " + k, () -> store.get(1, k));
-                refused("put 1 " + k, () -> store.put(1, k, 1));
-                refused("delete 1 " + k, () -> store.delete(1, k));
-                refused("scan 1 0 " + k, () -> store.scan(1, 0, k));
-                refused("scan 1 31 " + k, () -> store.scan(1, 31, k));
-                refused("scan 1 .. 31 " + k, () -> store.scan(1, k, 31));
-            }
+        DUE.is(name + ": " + call, got, want);
+        boolean ofWrite = call.name().equals("write");
+        if (ofWrite ? want == 0 : want == -1 || want == -4) {
+            refused++;
+            Call changed = Everything.firstDifference(before, Everything.after(frames, longer));
+            DUE.yes(name + ": " + call + " is refused, but changes: " + changed, changed == null);
+        } else {
+            model = playedModel();
         }
     }
 
-    /** More than 512 calls: what the later ones answer is free, but none may throw. */
-    private void callWildly(int seed) {
-        java.util.Random random = new java.util.Random(seed);
-        for (int i = 0; i < 4000; i++) {
-            int a = some(random);
-            int b = some(random);
-            int c = some(random);
-            switch (random.nextInt(23)) {
-                case 0, 1 -> store.begin(a);
-                case 2 -> store.get(a, b);
-                case 3, 4, 5 -> store.put(a, b, c);
-                case 6 -> store.delete(a, b);
-                case 7 -> store.scan(a, b, c);
-                case 8, 9 -> store.resume(a);
-                case 10 -> store.commit(a);
-                case 11 -> store.abort(a);
-                case 12 -> store.save(a);
-                case 13 -> store.rollback(a, random.nextBoolean() ? store.log(0) - 3 : b);
-                case 14 -> store.write(a);
-                case 15 -> store.archive();
-                case 16 -> store.crash(random.nextInt(9) == 0 ? 0 : a);
-                case 17 -> store.state(a);
-                case 18 -> store.lock(a, b);
-                case 19 -> store.waits(a, b);
-                case 20 -> store.entry(a, b);
-                case 21 -> store.key(a, b);
-                default -> store.frame(a + store.page(b) + store.log(c) + store.parent(a));
+    private Set<Integer> transactions() {
+        Set<Integer> numbers = new LinkedHashSet<>(List.of(LOWEST, LOWEST + 1, -65, -64, -2, -1));
+        int count = 0;
+        while (model.state(count) != PlainModel.NONE) {
+            count++;
+        }
+        numbers.addAll(List.of(0, 1, 2, 3, 4, 5, count - 1, count, count + 1));
+        numbers.addAll(List.of(58, 59, 60, 61, 63, 64, 65, 128, HIGHEST - 1, HIGHEST));
+        return numbers;
+    }
+
+    private Set<Integer> points() {
+        int last = model.log(0);
+        Set<Integer> points = new LinkedHashSet<>(List.of(LOWEST, -1, 0, HIGHEST));
+        for (int lsn = 1; lsn < 8; lsn++) {
+            points.add(lsn);
+        }
+        points.addAll(List.of(last - 1, last, last + 1));
+        return points;
+    }
+
+    private Set<Integer> countsBehind() {
+        int behind = model.log(0) - model.log(1);
+        return new LinkedHashSet<>(
+                List.of(LOWEST, -1, 0, 1, behind - 1, behind, behind + 1, behind + 2, HIGHEST));
+    }
+
+    private List<Call> candidates() {
+        List<Call> all = new ArrayList<>();
+        for (int t : transactions()) {
+            for (String name : new String[] {"begin", "resume", "commit", "abort", "save"}) {
+                all.add(Call.of(name, t));
             }
-            int used = store.log(2) + store.log(3) + store.log(4);
-            DUE.yes("the room is never above 300", used <= 300);
-            DUE.yes("FLUSHED is not above the last LSN", store.log(1) <= store.log(0));
+            for (int point : points()) {
+                all.add(Call.of("rollback", t, point));
+            }
+            for (int k : KEYS) {
+                all.add(Call.of("get", t, k));
+                all.add(Call.of("put", t, k, k));
+                all.add(Call.of("delete", t, k));
+                for (int high : KEYS) {
+                    all.add(Call.of("scan", t, k, high));
+                }
+            }
+        }
+        for (int page : PAGES) {
+            all.add(Call.of("write", page));
+        }
+        for (int n : countsBehind()) {
+            all.add(Call.of("crash", n));
+        }
+        all.add(Call.of("archive"));
+        return all;
+    }
+
+    /** What is answered after the 512th call is free, but no call may throw then either. */
+    private static void callWildly(int seed) {
+        Random random = new Random(seed);
+        NestedStore store = new NestedStore(seed % 10);
+        String[] names = {
+            "begin", "begin", "get", "put", "put", "put", "delete", "scan", "resume", "resume", "value",
+            "commit", "abort", "save", "rollback", "write", "archive", "crash", "state", "parent",
+            "lock", "waits", "entry", "log", "key", "frame", "page"
+        };
+        int calls = 0;
+        while (calls < 2000) {
+            String name = names[random.nextInt(names.length)];
+            boolean seldom = name.equals("crash") && random.nextInt(9) > 0;
+            Call.of(seldom ? "value" : name, some(random), some(random), some(random)).on(store);
+            calls++;
+            if (calls == Everything.MOST_CALLS - 5) {
+                int used = store.log(2) + store.log(3) + store.log(4);
+                DUE.yes("the room is never above 300", used <= 300);
+                DUE.yes("FLUSHED is not above the last LSN", store.log(1) <= store.log(0));
+            }
         }
     }
 
-    private static int some(java.util.Random random) {
+    private static int some(Random random) {
         int kind = random.nextInt(8);
         if (kind == 0) {
             return random.nextInt();
         }
-        return kind < 3 ? ODD[random.nextInt(ODD.length)] : random.nextInt(33) - 1;
+        int[] odd = {LOWEST, LOWEST + 1, -65, -64, -33, -5, -2, -1, 8, 31, 32, 33, 59, 60, 61, 63, 64,
+            65, 300, 301, HIGHEST - 1, HIGHEST};
+        return kind < 3 ? odd[random.nextInt(odd.length)] : random.nextInt(33) - 1;
     }
 }

@@ -12,13 +12,9 @@ final class RoomTest {
         DUE.end();
     }
 
-    private static int used(NestedStore store) {
-        return store.log(2) + store.log(3) + store.log(4);
-    }
-
     private static void putMany(Script script, int t, int count) {
         for (int i = 0; i < count; i++) {
-            DUE.is("4 put number " + i, script.store().put(t, i % 16, i), 0);
+            script.play(0, "put", t, i % 16, i);
         }
     }
 
@@ -26,9 +22,11 @@ final class RoomTest {
         Script script = new Script(DUE, "4, 5 full");
         script.play("begin -1 = 0");
         putMany(script, 0, 149);
-        DUE.is("room used", used(script.store()), 300);
         script.play("""
             log 0 = 150
+            log 2 = 150      # 150 and 149 and 1 are 300
+            log 3 = 149
+            log 4 = 1
             put 0 3 1 = FULL
             delete 0 3 = FULL
             begin -1 = FULL
@@ -66,8 +64,10 @@ final class RoomTest {
             begin -1 = 1
             """);
         putMany(script, 1, 147);
-        DUE.is("room used", used(script.store()), 299);
         script.play("""
+            log 2 = 151      # 151 and 147 and 1 are 299
+            log 3 = 147
+            log 4 = 1
             put 1 3 1 = FULL # one more would make 301
             delete 1 3 = FULL
             begin -1 = FULL

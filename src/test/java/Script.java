@@ -1,12 +1,25 @@
+import java.util.ArrayList;
+import java.util.List;
+import java.util.Map;
+
 /**
- * Plays a text of calls on one object. A line is a call with its arguments, "=" and the answer that
- * is due, as a number or a name (NONE, true, ..); "new F" makes the object anew; what stands behind
- * "#" says why the answer is due.
+ * Plays a text of calls. A line is a call with its arguments, "=" and the answer that is due, as a
+ * number or a name (NONE, true, ..); "new F" makes the object anew; what stands behind "#" says why
+ * the answer is due. Each call that is refused, or only asks, must leave all as it was, and one that
+ * is answered FULL all but locks: that is looked at by itself.
  */
 final class Script {
+    private static final int NONE = -1;
+    private static final int BUSY = -4;
+    private static final int FULL = -5;
+
     private final Due due;
     private final String name;
-    private NestedStore store = new NestedStore(8);
+    private final List<Call> run = new ArrayList<>();
+    private int frames = 8;
+    private NestedStore store = new NestedStore(frames);
+    /** Everything as it is after the run, or null when it has not been asked yet. */
+    private Map<Call, Integer> known;
 
     Script(Due due, String name) {
         this.due = due;
@@ -15,10 +28,6 @@ final class Script {
 
     static void play(Due due, String name, String text) {
         new Script(due, name).play(text);
-    }
-
-    NestedStore store() {
-        return store;
     }
 
     void play(String text) {
@@ -30,61 +39,107 @@ final class Script {
         }
     }
 
+    void play(int answer, String call, int... args) {
+        playCall(Call.of(call, args), answer);
+    }
+
+    /** The answer to a question, whatever it is. */
+    int ask(String question, int... args) {
+        Call call = Call.of(question, args);
+        run.add(call);
+        return call.on(store);
+    }
+
     private void playLine(String line) {
         String[] sides = line.split("=");
-        String[] words = sides[0].strip().split(" +");
-        int[] args = new int[3];
-        for (int i = 1; i < words.length; i++) {
-            args[i - 1] = Integer.parseInt(words[i]);
-        }
-        if (words[0].equals("new")) {
-            store = new NestedStore(args[0]);
+        if (sides.length == 2) {
+            playCall(Call.of(sides[0]), number(sides[1].strip()));
+        } else if (line.startsWith("new ")) {
+            make(Integer.parseInt(line.substring(4).strip()));
         } else {
-            due.is(name + ": " + sides[0].strip(), answerOf(words[0], args), number(sides[1].strip()));
+            throw new IllegalArgumentException(line);
         }
+    }
+
+    void make(int itsFrames) {
+        frames = itsFrames;
+        store = new NestedStore(frames);
+        run.clear();
+        known = null;
+    }
+
+    private void playCall(Call call, int answer) {
+        boolean full = !call.onlyAsks() && answer == FULL;
+        boolean keepsAll = call.onlyAsks() || isRefused(call, answer) || full;
+        Map<Call, Integer> before = keepsAll ? everything() : null;
+        due.is(where(call), call.on(store), answer);
+        run.add(call);
+        if (run.size() > Everything.MOST_CALLS) {
+            due.yes(where(call) + ": an object has 512 calls", false);
+        }
+        known = null;
+        if (before != null && run.size() < Everything.MOST_CALLS) {
+            compare(call, full, before);
+        }
+    }
+
+    private String where(Call call) {
+        return name + ": call " + run.size() + ": " + call;
+    }
+
+    private Map<Call, Integer> everything() {
+        if (known == null && run.size() < Everything.MOST_CALLS) {
+            known = Everything.after(frames, run);
+        }
+        return known;
+    }
+
+    private static boolean isRefused(Call call, int answer) {
+        if (call.name().equals("write")) {
+            return answer == 0;
+        }
+        return answer == NONE || answer == BUSY;
+    }
+
+    private void compare(Call call, boolean full, Map<Call, Integer> before) {
+        Map<Call, Integer> after = everything();
+        Call changed = null;
+        for (Call question : before.keySet()) {
+            int was = before.get(question);
+            Integer now = after.get(question);
+            boolean allowed = now != null && full && mayChange(question, call, now > was);
+            if (now == null || now != was && !allowed) {
+                changed = question;
+            }
+        }
+        boolean same = changed == null && after.size() == before.size();
+        due.yes(where(call) + " should change nothing, but changes: " + changed, same);
+    }
+
+    /** A put or delete that is FULL may have got locks, for which others wait; a resume ends a wait. */
+    private static boolean mayChange(Call question, Call call, boolean rises) {
+        boolean ofResume = call.name().equals("resume");
+        if (!ofResume && !call.name().equals("put") && !call.name().equals("delete")) {
+            return false;
+        }
+        return switch (question.name()) {
+            case "lock" -> question.a() == call.a() && rises;
+            case "state" -> question.a() == call.a() && ofResume && !rises;
+            case "waits" -> true;
+            default -> false;
+        };
     }
 
     private static int number(String text) {
         return switch (text) {
-            case "NONE" -> -1;
+            case "NONE" -> NONE;
             case "WAIT" -> -2;
             case "VICTIM" -> -3;
-            case "BUSY" -> -4;
-            case "FULL" -> -5;
+            case "BUSY" -> BUSY;
+            case "FULL" -> FULL;
             case "true" -> 1;
             case "false" -> 0;
             default -> Integer.parseInt(text);
-        };
-    }
-
-    private int answerOf(String call, int[] args) {
-        int a = args[0];
-        int b = args[1];
-        return switch (call) {
-            case "begin" -> store.begin(a);
-            case "get" -> store.get(a, b);
-            case "put" -> store.put(a, b, args[2]);
-            case "delete" -> store.delete(a, b);
-            case "scan" -> store.scan(a, b, args[2]);
-            case "resume" -> store.resume(a);
-            case "value" -> store.value();
-            case "commit" -> store.commit(a);
-            case "abort" -> store.abort(a);
-            case "save" -> store.save(a);
-            case "rollback" -> store.rollback(a, b);
-            case "write" -> store.write(a) ? 1 : 0;
-            case "archive" -> store.archive();
-            case "crash" -> store.crash(a);
-            case "state" -> store.state(a);
-            case "parent" -> store.parent(a);
-            case "lock" -> store.lock(a, b);
-            case "waits" -> store.waits(a, b) ? 1 : 0;
-            case "entry" -> store.entry(a, b);
-            case "log" -> store.log(a);
-            case "key" -> store.key(a, b);
-            case "frame" -> store.frame(a);
-            case "page" -> store.page(a);
-            default -> throw new IllegalArgumentException(call);
         };
     }
 }
