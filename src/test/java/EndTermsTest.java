@@ -17,12 +17,23 @@ final class EndTermsTest {
         greatestIsAParent();
         onlyThoseThatLeadBack();
         waitsForNone();
+        activeOnesWaitForNone();
         asLongAsInACircle();
         whatIsUndoneChangesTheWaits();
+        circleOfTheFirst();
+        circleThroughOneOfManyChildren();
+        circleOfTheLastOfSixty();
+        longestCircle(1, 1);
+        longestCircle(1, 32);
+        longestCircle(1, 17);
+        longestCircle(31, 1);
+        longestCircle(31, 32);
+        longestCircle(31, 17);
         abortOfOne();
         abortOfFamily();
         abortOfFamilyInOrder();
         abortLeavesOthers();
+        abortOfSixty();
         for (int parents = 0; parents <= 2; parents++) {
             for (int childs = 0; childs <= 2; childs++) {
                 strongerOfBoth(parents, childs);
@@ -33,6 +44,7 @@ final class EndTermsTest {
         undoneAfterACrash();
         undosAtTheEndOfTheLog();
         statesAfterACrash();
+        nothingIsCommitted();
         committedAtTheEndOfTheLog();
         flushedAfterACrash();
         framesAfterACrash();
@@ -188,6 +200,45 @@ final class EndTermsTest {
             """);
     }
 
+    /** An ACTIVE one leads to its live children alone, whatever it asked for before, or never did. */
+    private static void activeOnesWaitForNone() {
+        Script.play(DUE, "an active one waits for none", """
+            begin -1 = 0
+            put 0 0 1 = 0
+            put 0 4 1 = 0
+            commit 0 = 0
+            begin -1 = 1
+            put 1 0 2 = 0
+            begin -1 = 2
+            begin 2 = 3
+            put 3 4 2 = 0
+            commit 3 = 0     # 2 has 4 without a request of its own
+            waits 2 1 = false
+            get 1 4 = WAIT   # for 2, which leads nowhere
+            state 1 = 2
+            state 2 = 1
+            waits 1 2 = true
+            get 2 0 = VICTIM # only now
+            resume 1 = 1
+            """);
+        Script.play(DUE, "one that waited before", THREE_KEYS + """
+            begin -1 = 1
+            begin -1 = 2
+            put 1 4 2 = 0
+            get 2 4 = WAIT
+            commit 1 = 0
+            resume 2 = 1
+            put 2 8 2 = 0
+            begin -1 = 3
+            get 3 12 = 1
+            put 3 4 3 = WAIT # for 2, which is ACTIVE
+            state 2 = 1
+            waits 2 3 = false
+            commit 2 = 0
+            resume 3 = 0
+            """);
+    }
+
     /** "As long as T is live and it can come back to itself": one abort may not do. */
     private static void asLongAsInACircle() {
         Script.play(DUE, "three circles", THREE_KEYS + """
@@ -263,6 +314,120 @@ final class EndTermsTest {
             resume 4 = 0
             lock 4 32 = 1
             """);
+    }
+
+    private static void circleOfTheFirst() {
+        Script.play(DUE, "circle of 0 and 1", """
+            begin -1 = 0
+            begin -1 = 1
+            get 0 5 = 0
+            get 1 5 = 0
+            put 0 5 1 = WAIT
+            put 1 5 1 = VICTIM
+            state 0 = 2
+            state 1 = 4
+            resume 0 = 0
+            new 8
+            begin -1 = 0
+            begin -1 = 1
+            get 0 5 = 0
+            get 1 5 = 0
+            put 1 5 1 = WAIT
+            put 0 5 1 = WAIT
+            state 0 = 2
+            state 1 = 4
+            """);
+    }
+
+    /** "and a live one to its live children": to all of them. */
+    private static void circleThroughOneOfManyChildren() {
+        for (int asking = 3; asking <= 5; asking++) {
+            Script script = new Script(DUE, "a circle through the child " + asking);
+            script.play(THREE_KEYS + """
+                begin -1 = 1
+                put 1 4 2 = 0
+                begin -1 = 2
+                put 2 8 2 = 0
+                begin 1 = 3
+                begin 1 = 4
+                begin 1 = 5
+                """);
+            script.play(-2, "get", asking, 8);  // for 2
+            script.play(-2, "get", 2, 4);       // for 1, which leads to its children
+            script.play(4, "state", asking);
+            script.play("state 1 = 1\nstate 2 = 2\nlog 4 = 4");
+        }
+        Script.play(DUE, "children that are not live lead nowhere", THREE_KEYS + """
+            begin -1 = 1
+            begin 1 = 2
+            put 2 4 2 = 0
+            commit 2 = 0
+            begin 1 = 3
+            begin -1 = 4
+            put 4 8 2 = 0
+            get 3 8 = WAIT   # for 4
+            abort 3 = 0
+            get 4 4 = WAIT   # for 1, which has no live children
+            state 4 = 2
+            state 1 = 1
+            """);
+    }
+
+    private static Script sixty(String name) {
+        Script script = new Script(DUE, name);
+        script.play(THREE_KEYS);
+        for (int t = 1; t < 60; t++) {
+            script.play(t, "begin", -1);
+        }
+        return script;
+    }
+
+    private static void circleOfTheLastOfSixty() {
+        sixty("circle of 58 and 59").play("""
+            put 58 4 2 = 0
+            put 59 8 2 = 0
+            put 58 8 3 = WAIT
+            waits 58 59 = true
+            put 59 4 3 = VICTIM
+            state 58 = 2
+            state 59 = 4
+            resume 58 = 0
+            """);
+        sixty("circle of 1 and 59").play("""
+            put 1 4 2 = 0
+            put 59 8 2 = 0
+            put 59 4 3 = WAIT
+            waits 59 1 = true
+            put 1 8 3 = WAIT
+            state 1 = 2
+            state 59 = 4
+            resume 1 = 0
+            """);
+    }
+
+    /** As many as there are keys: each has one and waits for that of the one so many steps on. */
+    private static void longestCircle(int step, int last) {
+        Script script = new Script(DUE, "circle of 32 by steps of " + step + ", closed by " + last);
+        script.play("begin -1 = 0");
+        for (int k = 0; k < 32; k++) {
+            script.play(0, "put", 0, k, k);
+        }
+        script.play("commit 0 = 0");
+        for (int t = 1; t <= 32; t++) {
+            script.play(t, "begin", -1);
+            script.play(0, "put", t, t - 1, -t);
+        }
+        for (int t = 1; t <= 32; t++) {
+            if (t != last) {
+                script.play(-2, "get", t, (t - 1 + step) % 32);
+            }
+        }
+        script.play("log 4 = 32");
+        script.play(last == 32 ? -3 : -2, "get", last, (last - 1 + step) % 32);
+        script.play("log 4 = 31\nstate 32 = 4\nkey 31 1 = 31");
+        int waiting = (32 - 1 - step + 32) % 32 + 1;
+        script.play(1, "resume", waiting);      // the one that waited for 32
+        script.play("value = 31");
     }
 
     /** "TO ABORT T": nothing to undo, one to undo. */
@@ -365,6 +530,30 @@ final class EndTermsTest {
             """);
     }
 
+    private static void abortOfSixty() {
+        Script script = new Script(DUE, "abort of 60");
+        script.play("begin -1 = 0");
+        for (int t = 1; t < 60; t++) {
+            script.play(t, "begin", t % 3 == 1 ? 0 : t - 1);
+        }
+        script.play("""
+            put 59 31 1 = 0  # LSN 61
+            log 4 = 60
+            commit 0 = BUSY
+            abort 0 = 1
+            log 4 = 0
+            log 0 = 122
+            entry 62 1 = 0
+            entry 62 3 = 61
+            lock 59 31 = 0
+            """);
+        for (int t = 59; t >= 0; t--) {
+            script.play(5, "entry", 122 - t, 0);
+            script.play(t, "entry", 122 - t, 1);
+            script.play(4, "state", t);
+        }
+    }
+
     /** "its parent gets all its locks (the stronger of both counts), it has none any more" */
     private static void strongerOfBoth(int parents, int childs) {
         Script script = new Script(DUE, "parent " + parents + ", child " + childs);
@@ -445,6 +634,23 @@ final class EndTermsTest {
             page 0 = 3
             key 0 1 = 2
             key 0 3 = 1
+            """);
+        Script.play(DUE, "redo of a new key, and of one that is gone", """
+            begin -1 = 0
+            put 0 0 1 = 0
+            put 0 31 1 = 0
+            commit 0 = 0
+            archive = 2
+            begin -1 = 1
+            put 1 1 1 = 0
+            delete 1 31 = 1
+            commit 1 = 0
+            crash 0 = 0
+            key 0 1 = 1
+            key 1 0 = 1
+            key 1 2 = 0
+            key 31 0 = 0
+            key 31 2 = 1
             """);
         Script.play(DUE, "redo of an undo", """
             begin -1 = 0
@@ -546,6 +752,30 @@ final class EndTermsTest {
             parent 6 = 5
             log 4 = 0
             resume 9 = NONE
+            """);
+    }
+
+    private static void nothingIsCommitted() {
+        Script.play(DUE, "nothing is committed", """
+            begin -1 = 0
+            put 0 0 1 = 0
+            put 0 31 1 = 0
+            begin 0 = 1
+            begin -1 = 2
+            crash 0 = 0
+            state 0 = 4
+            state 1 = 4
+            state 2 = 4
+            key 0 0 = 0      # what was in a frame alone is gone
+            key 0 1 = 0
+            key 31 0 = 0
+            page 0 = 0
+            page 7 = 0
+            write 0 = false
+            write 7 = false
+            frame 0 = NONE
+            lock 0 0 = 0
+            lock 0 32 = 0
             """);
     }
 

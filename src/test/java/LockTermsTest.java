@@ -23,6 +23,7 @@ final class LockTermsTest {
             }
             locksOfScans(keys);
         }
+        allKeysAndTheEnd();
         strongerStays();
         lockedInOrder();
         scanKeepsWhatItGot();
@@ -299,6 +300,44 @@ final class LockTermsTest {
         script.play(sum, "value");
         shared.add(next(keys, high));
         hasLocks(script, List.of(), shared);
+    }
+
+    /** The most locks that one request can ask for. */
+    private static void allKeysAndTheEnd() {
+        Script script = new Script(DUE, "scan of all keys");
+        script.play("begin -1 = 0");
+        for (int k = 0; k < 32; k++) {
+            script.play(0, "put", 0, k, 1 << k);
+        }
+        script.play("""
+            commit 0 = 0
+            begin -1 = 1
+            begin -1 = 2
+            begin -1 = 3
+            get 2 31 = 1
+            delete 3 31 = WAIT # it has the END, but not 31
+            lock 3 32 = 2
+            lock 3 31 = 0
+            scan 1 0 31 = WAIT # for the END; 3 waits for 31, which 1 has got
+            state 3 = 4
+            waits 1 2 = false
+            waits 1 3 = false
+            lock 1 32 = 0
+            """);
+        for (int k = 0; k < 32; k++) {
+            script.play(1, "lock", 1, k);
+        }
+        script.play("""
+            resume 1 = 32
+            value = -1
+            lock 1 32 = 1
+            frame 0 = 15
+            frame 7 = 1
+            scan 1 1 31 = 31
+            value = -2
+            scan 1 0 30 = 31
+            value = 2147483647
+            """);
     }
 
     /** "each one that T does not have so (or stronger) already" */

@@ -376,6 +376,19 @@ final class LogTermsTest {
             log 2 = 0
             begin -1 = 2
             """);
+        Script last = used(300, "abort with 299 records");
+        last.play("""
+            rollback 1 5 = 147
+            log 2 = 299
+            log 4 = 1
+            rollback 1 5 = 0
+            rollback 1 299 = 0
+            rollback 1 300 = NONE
+            abort 1 = 0
+            log 2 = 300
+            entry 300 0 = 5
+            entry 301 0 = NONE
+            """);
         Script aborted = used(300, "abort");
         aborted.play("""
             abort 1 = 147
