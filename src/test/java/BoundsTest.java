@@ -217,9 +217,21 @@ final class BoundsTest {
             begin -1 = 3
             put 3 20 -5 = WAIT
             get 3 20 = NONE
+            put 3 20 6 = NONE
+            put 3 21 -5 = NONE
             commit 2 = 0
             resume 3 = 0
             key 20 1 = -5    # with the value of the first call
+            key 21 0 = 0
+            begin -1 = 4
+            scan 4 15 25 = WAIT
+            scan 4 20 20 = NONE
+            scan 4 0 31 = NONE
+            put 3 16 9 = 0
+            put 3 26 8 = 0
+            commit 3 = 0
+            resume 4 = 2
+            value = 4        # of 16 and 20
             """);
     }
 

@@ -31,10 +31,23 @@ final class RefusalTest {
         begin 1
         get 1 4
         """;
-    /** New, mixed, after a crash, after archive, full at 300, full at 299, all 60 and depth 4. */
+    private static final String WAITING = """
+        begin -1
+        put 0 4 40
+        begin -1
+        put 1 4 41
+        begin -1
+        scan 2 0 31
+        begin -1
+        delete 3 4
+        begin -1
+        get 4 5
+        """;
+    /** New, mixed, waiting, after a crash, after archive, full at 300, at 299, all 60 and depth 4. */
     private static final String[] STATES = {
         "",
         MIXED,
+        WAITING,
         MIXED + "crash 7\n",
         MIXED + "abort 0\nabort 2\narchive\n",
         "begin -1\n" + "put 0 4 1\n".repeat(149),
@@ -42,6 +55,30 @@ final class RefusalTest {
             + "put 2 8 1\n".repeat(145),
         "begin -1\nbegin 0\nbegin 1\nbegin 2\n" + "begin -1\n".repeat(56)
     };
+
+    /** What is kept unseen, such as the request of one that waits, shows in what comes later. */
+    private static final String AFTERWARDS = """
+        commit 5
+        commit 1
+        commit 0
+        resume 1
+        put 1 31 7
+        commit 1
+        resume 2
+        value
+        commit 2
+        resume 3
+        commit 3
+        resume 4
+        value
+        commit 4
+        begin -1
+        save 5
+        save 6
+        crash 0
+        archive
+        begin -1
+        """;
 
     public static void main(String[] args) {
         for (int i = 0; i < STATES.length; i++) {
@@ -57,21 +94,36 @@ final class RefusalTest {
     private final int frames;
     private final List<Call> run = new ArrayList<>();
     private final Map<Call, Integer> before;
+    private final String later;
     private PlainModel model;
     private int refused;
 
     private RefusalTest(String name, int frames, String text) {
         this.name = name;
         this.frames = frames;
-        for (String line : text.split("\n")) {
-            if (!line.isBlank()) {
-                run.add(Call.of(line));
-            }
-        }
+        run.addAll(calls(text));
         before = Everything.after(frames, run);
+        later = laterAnswers(run);
         model = playedModel();
         Call different = Everything.firstDifference(Everything.of(model), before);
         DUE.yes(name + " at first, not as due: " + different, different == null);
+    }
+
+    private static List<Call> calls(String text) {
+        return text.lines().filter(line -> !line.isBlank()).map(Call::of).toList();
+    }
+
+    /** The answers to what is done afterwards, and everything in the end. */
+    private String laterAnswers(List<Call> done) {
+        NestedStore store = new NestedStore(frames);
+        done.forEach(call -> call.on(store));
+        StringBuilder answers = new StringBuilder();
+        for (Call call : calls(AFTERWARDS)) {
+            answers.append(call).append(" = ").append(call.on(store)).append("; ");
+        }
+        List<Call> whole = new ArrayList<>(done);
+        whole.addAll(calls(AFTERWARDS));
+        return answers.append(Everything.after(frames, whole)).toString();
     }
 
     private PlainModel playedModel() {
@@ -102,6 +154,7 @@ final class RefusalTest {
             refused++;
             Call changed = Everything.firstDifference(before, Everything.after(frames, longer));
             DUE.yes(name + ": " + call + " is refused, but changes: " + changed, changed == null);
+            DUE.yes(name + ": " + call + " is refused, but shows later", later.equals(laterAnswers(longer)));
         } else {
             model = playedModel();
         }
