@@ -3,7 +3,7 @@ import java.util.List;
 import java.util.Map;
 
 /**
- * All short runs from some beginnings on, none left out: after each call that is not refused,
+ * From some beginnings on, all short runs of a small set of calls: after each that is not refused,
  * everything that can be asked is as PlainModel has it. ModelTest has the long runs.
  */
 final class ShortRunsTest {
